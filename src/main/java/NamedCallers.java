@@ -1830,7 +1830,8 @@ public final class NamedCallers {
                 boolean received = lodger >= 0 && lodger < MOST_LODGERS && rooms[lodger] > 0;
                 if (received && (used >> caller & 1) == 0 && clockThen + beats[at] <= lastBeat) {
                     rooms[lodger]--;
-                    extend(used | 1 << caller, soFar * 10 + caller, place + 1, clockThen + beats[at], gainThen + gains[at]);
+                    int longer = soFar * 10 + caller;
+                    extend(used | 1 << caller, longer, place + 1, clockThen + beats[at], gainThen + gains[at]);
                     rooms[lodger]++;
                 }
             }

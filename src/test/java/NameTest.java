@@ -43,6 +43,11 @@ public final class NameTest {
         // of several the earliest clock: the shorter of two alike, then the least row
         order("lp1;vn4;v", 1, 5, 5);
         order("lp1;v;v", 0, 5, 5);
+        // of several as early the shortest, be it found sooner or later
+        order("st4;lw0;vn1p0b1w3;vn3p0b1w3;vn4p0b1w6", 2, 6, 4);
+        order("st4;lw0;vn4p0b1w6;vn1p0b1w3;vn3p0b1w3", 0, 6, 4);
+        // one more would be announced for nothing: not
+        order("lw0;vb30;v;vb1w0", 1, 3, 5);
         // nobody whose business is done
         order("l;vb30", -1, 0, 0);
         order("st4;l;v", -1, 0, 0);

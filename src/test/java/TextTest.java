@@ -75,6 +75,16 @@ public final class TextTest {
         Checks.fault(0, "l;v;s;s", 6);
         Checks.fault(0, "l;l;l;l;v;l", 10);
         Checks.fault(0, "l;v;v;v;v;v;v;v", 14);
+        // all that can be told, and one clause too many
+        Checks.fault(0, "s;l;l;l;l;v;v;v;v;v;v", -1);
+        Checks.fault(0, "s;l;l;l;l;v;v;v;v;v;v;", 22);
+        Checks.fault(0, "s;l;l;l;l;v;v;v;v;v;v;l", 22);
+        Checks.fault(0, "s;l;l;l;l;v;v;v;v;v;v;x", 22);
+        Checks.fault(0, "s;l;l;l;l;v;v;v;v;v;v,", 21);
+        // bytes that are no signs of a text
+        Checks.fault(0, "l;v" + (char) 1, 3);
+        Checks.fault(0, "l;v" + (char) 9, 3);
+        Checks.fault(0, "l;v" + (char) 160, 3);
         // out of bounds: at the last digit
         Checks.fault(0, "st0;l;v", 2);
         Checks.fault(0, "st00;l;v", 3);
