@@ -1734,7 +1734,8 @@ public final class NamedCallers {
         private static final long DRAW_SUMMAND = 1442695040888963407L;
         private static final long ALL_PARTS = 1000000000L;
 
-        private final long[] parts = new long[MOST_HARDS + 1];
+        // One part for each way in which the sounds slip or not: bits of those that slip.
+        private final long[] parts = new long[1 << MOST_HARDS];
         private long drawn = 0;
         int whimLimit = 1;
 
@@ -1748,22 +1749,27 @@ public final class NamedCallers {
         }
 
         void split(int hards, int chance) {
-            for (int i = 0; i < parts.length; i++) {
-                parts[i] = 0;
+            for (int way = 0; way < parts.length; way++) {
+                parts[way] = 0;
             }
             parts[0] = ALL_PARTS;
             for (int sound = 0; sound < hards && sound < MOST_HARDS; sound++) {
-                // From the most slips down, so that no part slips twice by one sound.
-                for (int slips = sound; slips >= 0; slips--) {
-                    long slip = parts[slips] * chance / 100;
-                    parts[slips] -= slip;
-                    parts[slips + 1] += slip;
+                int ways = 1 << sound;
+                // Each way is cut by itself; ways with equally many slips, put together first, would be cut otherwise.
+                for (int way = 0; way < ways; way++) {
+                    long slip = parts[way] * chance / 100;
+                    parts[way] -= slip;
+                    parts[ways + way] = slip;
                 }
             }
         }
 
         long partOf(int slips) {
-            return slips >= 0 && slips < parts.length ? parts[slips] : 0;
+            long sum = 0;
+            for (int way = 0; way < parts.length; way++) {
+                sum += Integer.bitCount(way) == slips ? parts[way] : 0;
+            }
+            return sum;
         }
     }
 

@@ -99,6 +99,38 @@ public final class GameTest {
         // none slips: a quarter of each part goes, cut, so what is left is rounded up
         Checks.due("odds(1, 25)", y.odds(1, 25), 237304688);
         Checks.due("odds(1, 1)", y.odds(1, 1), 950990050);
+        oddsOfEachPart();
+    }
+
+    private static void oddsOfEachPart() {
+        // By 33 of 100 up to two of five slip: of each way in which those ahead slipped or not, the cut is its own.
+        NamedCallers x = Checks.house("l;vp5b9;vp5b5;vp4b7");
+        for (int caller = 0; caller < 3; caller++) {
+            for (int chance = 0; chance <= 100; chance++) {
+                int hards = x.caller(caller, 1);
+                int needed = (x.caller(caller, 3) - 3 + 1) / 2;
+                Checks.due("odds(" + caller + ", " + chance + ")", x.odds(caller, chance), oddsByWays(hards, needed, chance));
+            }
+        }
+        Checks.due("two of five at most", x.odds(0, 33), 795036916);
+        // the ways of a caller with five are gone when one with fewer is asked for
+        NamedCallers y = Checks.house("l;vp5b3;vp0b3;vp1b3");
+        for (int caller = 0; caller < 3; caller++) {
+            Checks.due("in all", y.odds(caller, 33), 1000000000);
+        }
+    }
+
+    private static int oddsByWays(int hards, int needed, int chance) {
+        long done = 0;
+        for (int way = 0; way < 1 << hards; way++) {
+            long part = 1000000000;
+            for (int sound = 0; sound < hards; sound++) {
+                long slip = part * chance / 100;
+                part = (way >> sound & 1) == 1 ? slip : part - slip;
+            }
+            done += hards - Integer.bitCount(way) >= needed ? part : 0;
+        }
+        return (int) done;
     }
 
     private static void means() {

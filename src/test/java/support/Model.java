@@ -397,25 +397,16 @@ final class Model {
     }
 
     int odds(int c, int chance) {
-        if (no(c) || chance < 0 || chance > 100) {
-            return NONE;
+        return no(c) || chance < 0 || chance > 100 ? NONE : (int) oddsOfPart(c, chance, 1000000000L, callers[c][1], 0);
+    }
+
+    /** Of a part in which some sounds are still to come, and some ahead of them were hard. */
+    private long oddsOfPart(int c, int chance, long part, int toCome, int hard) {
+        if (toCome == 0) {
+            return takes(c, hard, w.titles[c], w.tired, w.sings, w.day) >= callers[c][3] ? part : 0;
         }
-        int p = callers[c][1];
-        long[] parts = {1000000000L};
-        for (int i = 0; i < p; i++) {
-            long[] next = new long[i + 2];
-            for (int k = 0; k <= i; k++) {
-                long slip = parts[k] * chance / 100;
-                next[k + 1] += slip;
-                next[k] += parts[k] - slip;
-            }
-            parts = next;
-        }
-        long done = 0;
-        for (int k = 0; k <= p; k++) {
-            done += takes(c, p - k, w.titles[c], w.tired, w.sings, w.day) >= callers[c][3] ? parts[k] : 0;
-        }
-        return (int) done;
+        long slip = part * chance / 100;
+        return oddsOfPart(c, chance, slip, toCome - 1, hard) + oddsOfPart(c, chance, part - slip, toCome - 1, hard + 1);
     }
 
     int mean(int c) {
