@@ -4,15 +4,21 @@ import java.nio.charset.StandardCharsets;
 final class Checks {
     private static int wrong = 0;
     private static int made = 0;
+    private static String by = "";
 
     private Checks() {
+    }
+
+    /** By which words of the document the answers behind it are due. */
+    static void by(String words) {
+        by = words;
     }
 
     static void due(String call, long got, long want) {
         made++;
         if (got != want) {
             wrong++;
-            System.out.println(call + " answered " + got + ", due is " + want);
+            System.out.println(by + call + " answered " + got + ", due is " + want);
         }
     }
 
