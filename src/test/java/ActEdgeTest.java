@@ -31,6 +31,7 @@ public final class ActEdgeTest {
         latestForty();
         undoneLog();
         undoneEachAct();
+        upToTheLastCall();
         Checks.finish();
     }
 
@@ -509,6 +510,17 @@ public final class ActEdgeTest {
         Checks.due("the one ahead of it", x.log(1, 2), 9);
     }
 
+    private static void upToTheLastCall() {
+        Edges.preface("An object is used for at most 512 calls after it has been made; what later calls answer is free.");
+        NamedCallers x = new NamedCallers();
+        x.feed(0x6C3B7600, 0, 0, 0, 0);
+        x.text(0);
+        for (int call = 3; call <= 511; call++) {
+            Checks.due("call " + call, x.sing(), call % 2);
+        }
+        Checks.due("call 512", x.undo(), 39);
+    }
+
     private static void undone(String act, Edges.Calls ahead, Edges.Calls call) {
         String before = Portrait.of(ahead);
         String behind = Portrait.of(x -> {
@@ -527,13 +539,18 @@ public final class ActEdgeTest {
     private static void undoneEachAct() {
         Edges.terms(2, "All these are ACTS");
         Edges.Calls ahead = x -> {
-            Checks.tell(x, 0, "lp4;lp4;v;vt2;vl1;vb30");
+            Checks.tell(x, 0, "lp5;lp4;v;vt2;vl1;vb30;vb30");
             x.announce(0);
             x.hold(2);
             x.day();
             x.announce(1);
             x.announce(2);
+            x.announce(4);
+            x.title(0);
+            x.sing();
         };
+        NamedCallers y = Edges.after(ahead);
+        Checks.due("two done of three", y.count(11) * 10 + y.count(8), 23);
         undone("announce, done", ahead, x -> x.announce(0));
         undone("announce, cut off", ahead, x -> x.announce(3));
         undone("title", ahead, x -> x.title(1));

@@ -24,6 +24,7 @@ public final class HouseEdgeTest {
         letterThatWasThere();
         clauseTooMany();
         noSuchSort();
+        faultTellsNothing();
         tapeEmptyThen();
         houseInsteadOfAnother();
         Checks.finish();
@@ -43,6 +44,12 @@ public final class HouseEdgeTest {
         Checks.due("two bytes, one too many", x.feed(0x20000000, 0, 0, 0, 0x20), NONE);
         Checks.due("bytes", x.count(4), 239);
         Checks.due("the 240th", x.feed(0, 0, 0x00200000, 0, 0), 240);
+        for (int word = 0; word < 5; word++) {
+            int[] words = new int[5];
+            words[word] = 0x20;
+            Checks.due("the 241st, by number " + word, x.feed(words[0], words[1], words[2], words[3], words[4]), NONE);
+        }
+        Checks.due("bytes", x.count(4), 240);
         Edges.promise(2, "of each number the highest first; bytes of 0 are left out");
         NamedCallers y = new NamedCallers();
         Checks.due("feed of l;vn7b12", y.feed(0x6C003B00, 0x0076006E, 0x37000000, 0, 0x00623132), 8);
@@ -374,6 +381,46 @@ public final class HouseEdgeTest {
             }
             Checks.due("bytes", x.count(4), text.length());
         }
+    }
+
+    private static void faultTellsNothing() {
+        Edges.promise(4, "The FAULT of the TAPE");
+        // what was looked at, whole or faulty, leaves nothing in what is told behind it
+        String[][] looked = {{"st9h9c9;lw9p9;lw9p9;vn9p5t3b30w9l1a99;v;v", "sh7;l;vn9;x"}, {"y:1=1?21;y:22", "y:23+"}, {"h1;h2;h3", "h4;h5;x"}};
+        NamedCallers x = new NamedCallers();
+        for (int sort = 0; sort < 3; sort++) {
+            Checks.tape(x, looked[sort][0]);
+            Checks.due("fault", x.fault(sort), NONE);
+            Checks.tape(x, looked[sort][1]);
+            Checks.due("fault", x.fault(sort), looked[sort][1].length() - (sort == 1 ? 0 : 1));
+            Checks.due("nothing is told by it", x.count(sort == 0 ? 0 : sort + 1), 0);
+        }
+        Checks.due("a house", Checks.tell(x, 0, "l;vn4"), 1);
+        Checks.due("a law", Checks.tell(x, 1, "y:30"), 0);
+        Checks.due("an afternoon", Checks.tell(x, 2, "h6"), 0);
+        Checks.due("beats", x.rule(0), 60);
+        Checks.due("of a hard sound", x.rule(1), 2);
+        Checks.due("coins", x.rule(2), 20);
+        Checks.due("lodgers", x.count(1), 1);
+        Checks.due("wants", x.lodger(0, 0), 2);
+        Checks.due("patience", x.lodger(0, 1), 3);
+        int[] caller = {4, 1, 0, 5, 3, 0, 0, 0};
+        for (int what = 0; what < caller.length; what++) {
+            Checks.due("caller(0, " + what + ")", x.caller(0, what), caller[what]);
+        }
+        x.law(0);
+        Checks.due("name by the law", x.name(0, 0), 30);
+        Checks.due("its step", x.step(0, 0, 1), 6);
+        Checks.due("no other step", x.step(0, 1, 1), NamedCallers.HIDDEN);
+        // nor in what was told ahead of it
+        for (int sort = 0; sort < 3; sort++) {
+            Checks.tape(x, looked[sort][0]);
+            x.fault(sort);
+        }
+        Checks.due("callers", x.count(0), 1);
+        Checks.due("syllables", x.caller(0, 0), 4);
+        Checks.due("name by the law", x.name(0, 0), 30);
+        Checks.due("its step", x.step(0, 0, 1), 6);
     }
 
     private static void tapeEmptyThen() {

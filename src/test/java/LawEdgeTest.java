@@ -60,6 +60,9 @@ public final class LawEdgeTest {
         Checks.fault(1, Edges.row(60, "y:1"), NONE);
         Checks.fault(1, Edges.row(60, "y:1") + ";", 240);
         worth(Edges.row(29, "y:0=1?0") + ";y:42", 42);
+        // one clause that fills the tape, each sign of it counts
+        worth("y:42" + Edges.times(117, "-0") + "+8", 50);
+        worth("y:" + Edges.times(58, "0=1|") + "1=1?7", 7);
     }
 
     private static void perhapsCondition() {
@@ -132,8 +135,22 @@ public final class LawEdgeTest {
         worth("y:5>5?20;y:10", 10);
         worth("y:5>6?20;y:10", 10);
         worth("y:0-1<0?20;y:10", 20);
-        worth("y:!5=5?20;y:10", 10);
-        worth("y:!5=4?20;y:10", 20);
+        // what holds does not hold behind !, and holds with what else holds
+        String[] holds = {"5=5", "5<6", "5>4"};
+        String[] holdsNot = {"5=4", "5<5", "5>5"};
+        for (int i = 0; i < 3; i++) {
+            worth("y:!" + holds[i] + "?20;y:10", 10);
+            worth("y:!!" + holds[i] + "?20;y:10", 20);
+            worth("y:!" + holdsNot[i] + "?20;y:10", 20);
+            worth("y:!!" + holdsNot[i] + "?20;y:10", 10);
+            for (int k = 0; k < 3; k++) {
+                worth("y:" + holds[i] + "&" + holds[k] + "?20;y:10", 20);
+                worth("y:" + holds[i] + "&" + holdsNot[k] + "?20;y:10", 10);
+                worth("y:" + holdsNot[i] + "|" + holds[k] + "?20;y:10", 20);
+                worth("y:" + holds[i] + "|" + holdsNot[k] + "?20;y:10", 20);
+                worth("y:" + holdsNot[i] + "|" + holdsNot[k] + "?20;y:10", 10);
+            }
+        }
         // one of them, not two
         Checks.fault(1, "y:1=1=1?1", 5);
         Checks.fault(1, "y:1<=1?1", 4);

@@ -102,6 +102,14 @@ public final class QuestionEdgeTest {
         order("lp2;v;v;v", 1, 10, 10);
         order("lp1;v;v;v", 0, 5, 5);
         order("lp1;lp1;v;v;vl1;vl1", 2, 10, 10);
+        // calls that he received ahead of it count
+        NamedCallers x = Checks.house("lp2;v;v;v");
+        x.announce(1);
+        order(x, "one of two was received", 0, 5, 10);
+        x.announce(0);
+        order(x, "two of two were received", NONE, 0, 10);
+        // who is cut off may stand in it, if that tires her
+        order("lw2p9;vn1p0b30w0;vn1p0b30w0;vb6w9", 12, 11, 1 + 1 + 6);
         // one behind the other: the third takes 6
         order("st16;lp9;v;v;v", 12, 15, 16);
         order("st15;lp9;v;v;v", 1, 10, 10);
@@ -138,11 +146,11 @@ public final class QuestionEdgeTest {
 
     private static void needs() {
         Edges.terms(3, "the fewest TITLES in all (0 .. 3) by which his BUSINESS would be DONE now");
-        int[] want = {0, 1, 1, 2, 2, 3, 3, NONE};
-        for (int business = 5; business <= 12; business++) {
+        int[] want = {0, 0, 0, 0, 0, 1, 1, 2, 2, 3, 3, NONE, NONE};
+        for (int business = 1; business <= 13; business++) {
             NamedCallers x = Checks.house("l;vb" + business + ";vt3b" + business);
-            Checks.due("needs for " + business, x.needs(0), want[business - 5]);
-            Checks.due("in all, however many he has", x.needs(1), want[business - 5]);
+            Checks.due("needs for " + business, x.needs(0), want[business - 1]);
+            Checks.due("in all, however many he has", x.needs(1), want[business - 1]);
         }
         Edges.promise(26, "NONE: by none, no such CALLER.");
         NamedCallers x = Checks.house("l;vb30");
@@ -424,6 +432,19 @@ public final class QuestionEdgeTest {
         Checks.due("the busiest", last.all(4), 5);
         Checks.due("the grandest", last.all(5), 5);
         Checks.due("the keenest", last.all(6), 3);
+        // each by its own: whoever is first in one is last in the others
+        NamedCallers own = Checks.house("lw3;lw9;lw4;lw3;vn9p5;vn1p0;vw9;vb30;vt3");
+        int[] each = {0, 1, 2, 3, 4, 1};
+        for (int what = 1; what <= 6; what++) {
+            Checks.due("all(" + what + ")", own.all(what), each[what - 1]);
+        }
+        for (int lodger = 0; lodger < 4; lodger++) {
+            StringBuilder house = new StringBuilder("v");
+            for (int i = 0; i < 4; i++) {
+                house.append(i == lodger ? ";lw1" : ";lw0");
+            }
+            Checks.due("the keenest", Checks.house(house.toString()).all(6), lodger);
+        }
         Edges.terms(3, "LONGEST: the CALLER whose NAME takes most now");
         NamedCallers now = Checks.house("l;v;vn4");
         Checks.due("the longer", now.all(1), 1);
@@ -511,6 +532,16 @@ public final class QuestionEdgeTest {
         Checks.due("none of them", y.queue(1), 0);
         y.day();
         Checks.due("on the next day", y.queue(0), 10);
+        // names that take the most and the least that there can be
+        Checks.tell(y, 1, "y:60");
+        Checks.tell(y, 1, "y:1");
+        Checks.tell(y, 1, "y:n=4?60;y:59");
+        Checks.tell(y, 1, "y:n=4?59;y:60");
+        int[] want = {1, 1, 10, 1};
+        for (int law = 0; law < 4; law++) {
+            y.law(law);
+            Checks.due("the row by law " + law, y.queue(0), want[law]);
+        }
     }
 
     private static void queueUpToTheFirst() {
@@ -545,6 +576,13 @@ public final class QuestionEdgeTest {
         x.announce(2);
         Checks.due("now, when she is tired", x.sung(1, 0), 3);
         Checks.due("now, when she is tired", x.sung(1, 1), 6);
+        Checks.tell(x, 1, "y:20+s*7");
+        x.law(0);
+        for (int song = 0; song <= 1; song++) {
+            Checks.due("by the law, if she sings", x.sung(0, 0), 27);
+            Checks.due("by the law, if she does not", x.sung(0, 1), 20);
+            x.sing();
+        }
     }
 
     private static void span() {

@@ -49,6 +49,7 @@ public final class RefusedEdgeTest {
     };
 
     public static void main(String[] args) {
+        Edges.terms(4, "What is refused answers as told and changes nothing.");
         tape();
         told();
         settings();

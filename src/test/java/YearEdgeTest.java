@@ -269,6 +269,27 @@ public final class YearEdgeTest {
             }
             x.back();
         });
+        String otherwise = Portrait.of(x -> {
+            LIVED.on(x);
+            x.image();
+            for (int i = 0; i < 11; i++) {
+                x.undo();
+            }
+            x.day();
+            x.hold(20);
+            x.day();
+            x.back();
+        });
+        String longBehind = Portrait.of(x -> {
+            LIVED.on(x);
+            x.image();
+            for (int i = 0; i < 7; i++) {
+                x.years(30, i);
+            }
+            x.back();
+        });
+        Checks.due("behind other days instead of undone ones", otherwise.equals(kept), true);
+        Checks.due("behind more days than a log holds", longBehind.equals(kept), true);
         NamedCallers x = Edges.after(LIVED);
         Checks.due("image()", x.image(), 2);
         x.day();
@@ -278,6 +299,21 @@ public final class YearEdgeTest {
             Checks.due("count(" + (6 + i) + ")", x.count(6 + i), want[i]);
         }
         Checks.due("the log is so long", x.count(14), 2);
+        int[][] log = {{0, 0, 3}, {1, 2 + 8, 9 + 5}};
+        for (int i = 0; i < 2; i++) {
+            for (int what = 0; what < 3; what++) {
+                Checks.due("log(" + i + ", " + what + ")", x.log(i, what), log[i][what]);
+            }
+        }
+        int[] titles = {1, 2, 0, 0};
+        int[] announced = {1, 0, 0, 1};
+        for (int i = 0; i < 4; i++) {
+            Checks.due("titles", x.caller(i, 2), titles[i]);
+            Checks.due("announced", x.caller(i, 7), announced[i]);
+        }
+        Checks.due("calls received", x.lodger(0, 2), 2);
+        // 9 told, one done on day 0, 2 for a title
+        Checks.due("coins", x.rule(2), 8);
         Checks.due("behind acts", changed.equals(kept), true);
         Checks.due("behind undone acts", undone.equals(kept), true);
     }

@@ -44,6 +44,12 @@ final class Edges {
         return section.substring(section.indexOf("`: ") + 3).trim();
     }
 
+    /** The answers behind it are due by these words, which stand in none of the parts below. */
+    static void preface(String words) {
+        Checks.by("'" + words + "': ");
+        Checks.due("the document has these words", between("## What it is", "## Terms").contains(words), true);
+    }
+
     private static String terms(int part) {
         String to = part == 4 ? "## Promise 1:" : "==== " + (part + 1) + ".";
         String whole = DOCUMENT.substring(DOCUMENT.indexOf("## Terms"));
